@@ -49,6 +49,7 @@ public final class BookTest {
         due("2: about(12)", x.about(12), 1600);
         due("3: end(1601)", x.end(1601), -1);
         due("3: end(-1)", x.end(-1), -1);
+        due("3: end(1600)", x.end(1600), 1600);
         due("3: end(1581)", x.end(1581), 1581);
         due("2: feed with 19 bytes of room", x.feed(0, 0, 0, 0, 0), -1);
         due("3: end(1580)", x.end(1580), 1580);
@@ -156,6 +157,10 @@ public final class BookTest {
             fault("word " + own + " 5;", 2, 5);
         }
         sound("word line 1;word both 2;word one 3;word sum 4;word term 5;word unit 6;word e 7;word n 8;word name 9;word book 10;");
+        // Names that are nearly one of the words that stand for themselves.
+        sound("word ford 1;word words 2;word wor 3;word fast 4;word las 5;word lasts 6;word cash 7;word o 8;word orr 9;word nor 10;");
+        fault("hash latal;", 2, 5);
+        fault("sash 1;", 2, 0);
         sound("hash not not 1 and not (2 or 3) < 4 * 5 / 6 % 7 - first + last or length = total;");
     }
 

@@ -69,6 +69,7 @@ public final class EntriesTest {
         due("7: there were 14", x.learn(s("abc"), 1), -1);
         due("7: 13 entries", x.about(1), 13);
         due("7: 14 numbers", x.about(2), 14);
+        due("7: no act by that", x.about(8), 13 + 1);
         x.forget(13);
         due("7: still 14 numbers", x.learn(s("abc"), 1), -1);
     }

@@ -75,6 +75,10 @@ public final class FindingTest {
         NearSpell y = Check.told("prefix 6;");
         due("16: 22 at the most", y.forms(s("abcdef")), 22);
         due("16: the last", y.lies(21), s("abcdef"));
+        Check.book(y, "prefix 5;");
+        due("16: by another prefix", y.forms(s("abcdef")), 16);
+        Check.book(y, "prefix 5;errors 1;");
+        due("16: by other errors", y.forms(s("abcdef")), 6);
         NearSpell z = Check.told("prefix 2;errors 0;");
         due("16: no errors", z.forms(s("abc")), 1);
         lie("16: no errors", z, s("ab"));
@@ -205,6 +209,8 @@ public final class FindingTest {
         due("22: what 3", x.split(s("cats"), 3), -1);
         due("22: what -1", x.split(s("cats"), -1), -1);
         due("22: can't be", x.split(27, 0), -1);
+        x.forget(2);
+        due("22: not with a forgotten one", x.split(s("cats"), 2), 2);
         due("22: no entries", new NearSpell().split(1, 0), -1);
         NearSpell y = Check.told("word ab 1;word ba 1;");
         due("22: a swap of both words", y.split(s("aabb"), 2), 1);

@@ -95,6 +95,7 @@ public final class NeighboursTest {
         due("30: by -1", x.chain(0, 0, -1), -1);
         due("30: no entry", x.chain(5, 0, 1), -1);
         due("30: no other", x.chain(0, -1, 1), -1);
+        due("30: neither", x.chain(5, 5, 1), -1);
         x.forget(2);
         due("30: not over a forgotten one", x.chain(0, 1, 1), -1);
         due("30: not from it", x.chain(2, 2, 1), -1);

@@ -143,6 +143,12 @@ public final class SeenTest {
         w.seen(s("aaaaaa"), 0, false);
         // The first three fit, each two of them 3 apart; from the last, which doesn't, 1 2 3.
         due("45: a word that doesn't fit", w.ask(0, 0) * 10 + w.ask(1, 0), 31);
+        NearSpell ten = Check.told("word a 1;word b 1;word c 1;word d 1;word e 1;word f 1;word g 1;word h 1;word i 1;word j 1;");
+        due("45: nine at the most by each, the first", ten.ask(0, 0) * 10 + ten.ask(1, 0), 9);
+        NearSpell one = Check.told("word ab 1;");
+        due("45: one word alone", one.ask(0, 0) * 10 + one.ask(1, 0), 1);
+        NearSpell wide = Check.told("word zzzzzz 1;word aa 1;word abcdef 1;word bcdefg 1;");
+        due("45: six apart counts too", wide.ask(0, 0) * 10 + wide.ask(1, 0), 21);
         due("45: no words", new NearSpell().ask(0, 0), -1);
     }
 
