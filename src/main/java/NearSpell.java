@@ -37,8 +37,6 @@ public final class NearSpell {
     private final Witness witness;
     private final int[] lying;
     private int lyingSize;
-    private int faultKind;
-    private int faultPlace;
 
     public NearSpell() {
         tape = new byte[MOST_BYTES];
@@ -56,8 +54,6 @@ public final class NearSpell {
         lying = new int[MOST_FORMS];
         tapeSize = 0;
         lyingSize = 0;
-        faultKind = 0;
-        faultPlace = NONE;
     }
 
     public int feed(int a, int b, int c, int d, int e) {
@@ -81,10 +77,7 @@ public final class NearSpell {
     }
 
     public int book() {
-        boolean sound = reader.readText(tapeSize);
-        faultKind = reader.faultKind;
-        faultPlace = reader.faultPlace;
-        if (!sound) {
+        if (!reader.readText(tapeSize)) {
             return NONE;
         }
         told.takeOver(draft);
@@ -99,9 +92,9 @@ public final class NearSpell {
 
     public int fault(int what) {
         if (what == 0) {
-            return faultKind;
+            return reader.faultKind;
         }
-        return what == 1 ? faultPlace : NONE;
+        return what == 1 ? reader.faultPlace : NONE;
     }
 
     public int entry(int entry, int what) {
@@ -1810,7 +1803,7 @@ public final class NearSpell {
         int middleEntry() {
             measure();
             int best = NONE;
-            int least = Integer.MAX_VALUE;
+            int least = MOST_NUMBERS * MOST_APART + 1;
             for (int i = 0; i < MOST_NUMBERS; i++) {
                 int sum = isIn(all, i) ? sumFrom(i) : least;
                 if (sum < least) {

@@ -81,7 +81,7 @@ public final class RulesTest {
         CHECK.due("no lambda, no method reference", bare.contains("->") || bare.contains("::"), false);
         CHECK.due("no sign above 127", text.chars().allMatch(c -> c < 128), true);
         Matcher calls = Pattern.compile("\\b(Math|Integer|Long|System|Arrays)\\.(\\w+)").matcher(bare);
-        Set<String> allowed = Set.of("Math.min", "Math.max", "Math.abs", "Integer.bitCount", "Integer.MAX_VALUE", "System.arraycopy");
+        Set<String> allowed = Set.of("Math.min", "Math.max", "Math.abs", "Integer.bitCount", "System.arraycopy");
         while (calls.find()) {
             CHECK.due(calls.group() + " is allowed", allowed.contains(calls.group()), true);
         }
