@@ -5,6 +5,7 @@ public final class BookEdgesTest {
     private static final String REST = "prefix 3;errors 1;hash total;buckets 5;slips 2;draw 8;";
 
     public static void main(String[] args) {
+        newObject();
         sixteenHundredBytes();
         tapeCutAndGoneOnWith();
         everyByte();
@@ -21,6 +22,7 @@ public final class BookEdgesTest {
         leastAtOnePlace();
         firstByPlace();
         theEnd();
+        leftOut();
         aNewBook();
         CHECK.finish();
     }
@@ -35,6 +37,16 @@ public final class BookEdgesTest {
 
     private static void sound(String text) {
         due("fault of '" + text + "'", Check.faultOf(text), 0);
+    }
+
+    private static void newObject() {
+        NearSpell x = new NearSpell();
+        due("1: an empty BOOK", x.about(0) + x.about(1) + x.about(2) + x.about(3), 0);
+        due("1: prefix 4, errors 2, 13 buckets", x.about(4) * 1000 + x.about(5) * 100 + x.about(6), 4213);
+        due("5: no FAULT without a book()", x.fault(0), 0);
+        due("5: no place", x.fault(1), -1);
+        due("4: the empty TAPE is the BOOK", x.book(), 0);
+        due("1: NONE", NearSpell.NONE, -1);
     }
 
     private static String padded(String ahead, String behind, int bytes) {
@@ -138,6 +150,11 @@ public final class BookEdgesTest {
                 sound("word " + own + "x 5;");
                 sound("word x" + own + " 5;");
             }
+            if (own.length() < 7) {
+                sound("word q" + own.substring(1) + " 5;");
+                sound("word " + own.substring(0, own.length() - 1) + "q 5;");
+            }
+            fault("q" + own.substring(1) + " 5;", 2, 0);
             sound("word " + own.substring(0, 1) + " 5;");
         }
         sound("word e 1;word n 2;word name 3;word line 4;word book 5;word both 6;word one 7;word sum 8;word term 9;word unit 10;");
@@ -291,6 +308,32 @@ public final class BookEdgesTest {
             fault("draw 5;" + text, 2, text.length() + 7);
         }
         sound("draw 5; \n");
+    }
+
+    /** Where a part of a line is left out, the TOKEN behind it can't stand there. */
+    private static void leftOut() {
+        for (String head : new String[] {"word", "prefix", "errors", "hash", "buckets", "slips", "draw"}) {
+            fault(head + ";", 2, head.length());
+            fault(head + " ;", 2, head.length() + 1);
+            fault(head + ")", 2, head.length());
+            fault(head + " word a 5;", 2, head.length() + 1);
+        }
+        for (String inner : new String[] {"or", "and", "not", "total", "length", "first", "last"}) {
+            fault(inner + " 5;", 2, 0);
+            fault("word a 5;" + inner + " 5;", 2, 9);
+        }
+        fault("word a;", 2, 6);
+        fault("word a b;", 2, 7);
+        fault("hash ();", 2, 6);
+        fault("hash 1+;", 2, 7);
+        fault("hash 1 *;", 2, 8);
+        fault("hash not;", 2, 8);
+        fault("hash 1 and;", 2, 10);
+        fault("hash 1 or;", 2, 9);
+        fault("hash 1 <;", 2, 8);
+        fault("hash (1;", 2, 7);
+        fault("hash 1);", 2, 6);
+        fault("draw 5;;", 2, 7);
     }
 
     /** All that a BOOK makes anew, and what stays. */

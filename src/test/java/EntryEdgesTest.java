@@ -5,6 +5,7 @@ public final class EntryEdgesTest {
     public static void main(String[] args) {
         spellings();
         fourteenNumbers();
+        allAtOnce();
         freeForNobody();
         usedAtTheMost();
         sixTyped();
@@ -86,6 +87,28 @@ public final class EntryEdgesTest {
         }
         due("7: ten WORDS and four", y.learn(s("y"), 1), -1);
         due("18: 14 bits", y.met(0, 1), (1 << 14) - 1);
+    }
+
+    /** 14 numbers, 6 typed: none stands in another one's place. */
+    private static void allAtOnce() {
+        NearSpell x = Check.told("draw 5;slips 0;");
+        for (int i = 0; i < 14; i++) {
+            x.learn(s("zzzzz") * 27 + 26 - i, 999 - i);
+        }
+        for (int i = 0; i < 6; i++) {
+            x.type(s("yyyyy") * 27 + 26 - i);
+        }
+        int seed = 5;
+        for (int i = 0; i < 14; i++) {
+            due("6: SPELLING " + i, x.entry(i, 0), s("zzzzz") * 27 + 26 - i);
+            due("6: used " + i, x.entry(i, 2), 999 - i);
+        }
+        for (int i = 0; i < 6; i++) {
+            due("14: typed " + i, x.typed(i), s("yyyyy") * 27 + 26 - i);
+            seed = (seed * 137 + 71) % 1000;
+        }
+        due("48: the SEED", x.about(7), seed);
+        due("48: numbers, SPELLINGS", x.about(2) * 10 + x.about(3), 146);
     }
 
     private static void freeForNobody() {
@@ -309,6 +332,12 @@ public final class EntryEdgesTest {
         forms("errors 0;prefix 6;", "zyx", "zyx");
         forms("errors 0;prefix 3;", "zyx", "zyx");
         forms("errors 1;prefix 2;", "aab", "a", "aa");
+        NearSpell again = Check.told("prefix 3;errors 0;word abcdef 1;");
+        due("16: by prefix 3", again.forms(s("abcdef")) * 100000 + again.lies(0), 100000 + s("abc"));
+        due("4: another prefix alone", Check.book(again, "prefix 2;errors 0;word abcdef 1;"), 1);
+        due("16: by prefix 2", again.forms(s("abcdef")) * 100000 + again.lies(0), 100000 + s("ab"));
+        due("4: other errors alone", Check.book(again, "prefix 2;errors 1;word abcdef 1;"), 1);
+        due("6: by one error", again.entry(0, 3), 3);
         NearSpell x = Check.told("prefix 6;word abcdef 1;word aaaaaa 1;");
         due("16: the most FORMS there can be", x.forms(s("uvwxyz")), 22);
         due("40: the last of them", x.lies(21), s("uvwxyz"));
@@ -352,6 +381,12 @@ public final class EntryEdgesTest {
         bucket("not not 9", 31, "", 1);
         bucket("(0 - 1) and 9999", 31, "", 1);
         bucket("(0 - 1) or 0", 31, "", 1);
+        String[] truths = {"0 and 0", "0 and 1", "1 and 0", "1 and 1", "0 or 0", "0 or 1", "1 or 0", "1 or 1"};
+        int[] want = {0, 0, 0, 1, 0, 1, 1, 1};
+        for (int i = 0; i < truths.length; i++) {
+            bucket(truths[i], 31, "", want[i]);
+            bucket(truths[i].replace('1', '9'), 31, "", want[i]);
+        }
         bucket("5 < 5", 31, "", 0);
         bucket("4 < 5", 31, "", 1);
         bucket("5 > 5", 31, "", 0);

@@ -64,6 +64,8 @@ public final class NearEdgesTest {
             due("37: NONE without ENTRIES", x.rarest(), -1);
             due("38: none", x.law(0) + x.law(1) + x.law(2), 0);
             due("10: NONE: none", x.type(s("ab")), -1);
+            due("24: one typed, no ENTRIES", x.reading(), -1);
+            due("25: one typed, no ENTRIES", x.readings(), -1);
             due("10: and another", x.type(s("cd")), -1);
             due("23: no ENTRIES", x.join(0, 0) + x.join(0, 1), -2);
             due("24: NONE without ENTRIES, if something is typed", x.reading(), -1);
@@ -215,6 +217,10 @@ public final class NearEdgesTest {
         due("40: the last of them", x.lies(4), 4);
         due("40: none behind", x.lies(5), -2);
         due("48: numbers that lie there", x.about(14), 5);
+        NearSpell beyond = Check.told("word azzzzz 1;word azzzzy 1;word ab 1;prefix 1;");
+        due("21: the first one is met, but beyond d", beyond.near(s("ab"), 4), 1);
+        due("40: it is not among them", beyond.lies(0), 2);
+        due("21: d 5: all", beyond.near(s("ab"), 5), 3);
         NearSpell full = new NearSpell();
         for (int i = 0; i < 14; i++) {
             full.learn(i + 1, 13 - i);
@@ -312,6 +318,18 @@ public final class NearEdgesTest {
         x.undo();
         // Two pairs and the last one alone, 1 each; any other piece would be b a, at 2.
         read("five", x, 3, 1);
+        NearSpell one = Check.told("word a 1;");
+        one.type(s("aaaa"));
+        // a at 3; a a at 2, and 1.
+        read("one or two of them", one, 3, 2);
+        one.wipe();
+        one.type(0);
+        one.type(0);
+        // One by one 1 + 1; joined 1, and 1.
+        read("one by one or joined", one, 2, 2);
+        one.type(s("a"));
+        // The first two as before, then a at 0; or the first at 1, then a joined, and 1.
+        read("and a", one, 2, 3);
         NearSpell e = new NearSpell();
         e.learn(0, 1);
         e.type(0);
@@ -346,6 +364,8 @@ public final class NearEdgesTest {
         NearSpell y = Check.told("word abcdef 1;word ghijkl 1;word mnopqr 1;");
         due("26: as far as can be", y.closest(0) * 100 + y.closest(1) * 10 + y.closest(2), 16);
         y.learn(0, 1);
+        NearSpell two = Check.told("word ab 1;word abc 1;");
+        due("26: just two", two.closest(0) * 100 + two.closest(1) * 10 + two.closest(2), 11);
         due("26: six letters from the empty one, not nearer", y.closest(0) * 100 + y.closest(1) * 10 + y.closest(2), 16);
     }
 
@@ -382,7 +402,23 @@ public final class NearEdgesTest {
         NearSpell y = Check.told("word abcdef 1;word ghijkl 1;word abcdeg 1;");
         due("28: d 5: more than 5", y.far(5, 0) * 10 + y.far(5, 1), 23);
         due("28: d 6: none is more than 6", y.far(6, 0) * 10 + y.far(6, 1), 11);
-        // The least as bits has not the least numbers' first: 1 and 2 against 0 and 3.
+        // aaa and aab are near, each is far from the three others.
+        NearSpell w = Check.told("word aaa 1;word fff 1;word ggg 1;word aab 1;word hhh 1;");
+        due("28: one of two near ones", w.far(1, 0) * 100 + w.far(1, 1), 400 + 0b10111);
+        w.learn(s("hhi"), 0);
+        w.learn(s("aac"), 0);
+        due("28: of three near ones the first", w.far(1, 0) * 100 + w.far(1, 1), 400 + 0b10111);
+        NearSpell v = Check.told("word aaa 1;word bbb 1;word aab 1;word abb 1;");
+        // The chain aaa aab abb bbb: ends, or every other one.
+        due("28: the least of like sets", v.far(1, 0) * 100 + v.far(1, 1), 200 + 0b0011);
+        v.forget(0);
+        due("28: then", v.far(1, 0) * 100 + v.far(1, 1), 200 + 0b0110);
+        v.learn(s("zzz"), 0);
+        due("28: the others with the last", v.far(1, 0) * 100 + v.far(1, 1), 300 + 0b10110);
+        // The first is near to both others, which are far from one another.
+        NearSpell u = Check.told("word aab 1;word aaa 1;word abb 1;");
+        due("28: without the first", u.far(1, 0) * 100 + u.far(1, 1), 200 + 0b110);
+        // The least as bits: 0 and 2 against 0 and 3, 1 and 3.
         NearSpell z = Check.told("word aab 1;word aaa 1;word bbb 1;word bba 1;");
         due("28: the least set as bits", z.far(1, 0) * 100 + z.far(1, 1), 205);
         z.forget(0);
@@ -453,6 +489,17 @@ public final class NearEdgesTest {
         due("33: one BUCKET", one.load(0) * 10 + one.load(1), 59);
         due("34: it", one.fullest(), 0);
         due("35: both ENTRIES' a and b", one.store(), 6);
+        due("36: in BUCKET 0, ab, ba, a, b", one.clashes(), 6);
+        one.forget(1);
+        due("36: ab, a, b", one.clashes(), 3);
+        NearSpell ends = Check.told("word a 1;word b 1;errors 0;hash (total = 2) * 30;buckets 31;");
+        due("33: one in each", ends.load(0) * 10 + ends.load(30), 11);
+        due("34: the first of like ones", ends.fullest(), 0);
+        due("36: unlike ones in unlike BUCKETS", ends.clashes(), 0);
+        ends.learn(s("bb"), 0);
+        due("36: two in the first", ends.clashes(), 1);
+        NearSpell second = Check.told("word a 1;word b 1;errors 0;hash 1;");
+        due("34: the second BUCKET", second.fullest(), 1);
         NearSpell like = Check.told("word a 1;word b 1;errors 0;hash 5 - total;");
         due("34: of like ones the first", like.fullest(), 3);
         like.forget(1);
@@ -472,6 +519,15 @@ public final class NearEdgesTest {
         due("37: of like ones the first", x.rarest(), 0);
         x.forget(0);
         due("37: a and b: one each", x.rarest(), 1);
+        NearSpell m = Check.told("word a 1;word ab 1;word abc 1;word abd 1;errors 1;");
+        // a: empty; ab: b; abc: abc, ac, bc; abd as many.
+        due("37: the most of their own", m.rarest(), 2);
+        m.forget(2);
+        due("37: then", m.rarest(), 3);
+        m.learn(s("ad"), 1);
+        m.learn(s("bd"), 1);
+        // a has the empty one alone, abd itself; all else is others', too.
+        due("37: what others have doesn't count", m.rarest(), 0);
         NearSpell y = Check.told("word abcd 1;word abce 1;prefix 3;");
         due("37: none has its own", y.rarest(), 0);
         NearSpell z = Check.told("word a 1;word abcdef 1;errors 0;prefix 6;");

@@ -211,6 +211,9 @@ public final class SeenEdgesTest {
         NearSpell y = Check.told("word b 1;word abcdef 1;word abcdeg 1;word abcdhg 1;word abcihg 1;word abjihg 1;word akjihg 1;word lkjihg 1;");
         y.seen(s("b"), 0, false);
         due("45: seven told apart by one", y.ask(0, 0) * 10 + y.ask(1, 0), 11);
+        // Both others are 6 away from the first; from each of them the others are 6 and 1 away.
+        NearSpell six = Check.told("word uvwxyz 1;word abcdef 1;word abcdeg 1;");
+        due("45: 6 away counts too", six.ask(0, 0) * 10 + six.ask(1, 0), 11);
     }
 
     private static void boxes() {
