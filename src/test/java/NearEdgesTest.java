@@ -173,6 +173,15 @@ public final class NearEdgesTest {
         NearSpell one = Check.told("word abc 1;word xyz 1;buckets 1;errors 0;");
         due("18: in one BUCKET all are MET", one.met(0, 0) * 10 + one.met(0, 2), 33);
         due("18: truly none", one.met(0, 1), 0);
+        // 22 FORMS each, none in common but those of abcdef and abcdez.
+        NearSpell most = Check.told("word abcdef 1;word uvwxyz 1;word abcdez 1;prefix 6;");
+        due("18: of 22 FORMS", most.met(s("uvwxyz"), 1), 0b010);
+        due("18: of 22 FORMS, the first and the last", most.met(s("abcdeg"), 1), 0b101);
+        due("37: of 22 FORMS", most.rarest(), 1);
+        // The same numbers with fewer FORMS: none of those that were.
+        due("4: errors 0", Check.book(most, "word abcdef 1;word uvwxyz 1;word abcdez 1;prefix 6;errors 0;"), 3);
+        due("18: of one FORM", most.met(s("abcdeg"), 1) + most.met(s("abcd"), 1) + most.met(s("uvwxy"), 1), 0);
+        due("37: of one FORM", most.rarest(), 0);
         NearSpell beginning = Check.told("word abcdef 1;word abcduv 1;errors 0;prefix 4;");
         due("18: by their beginnings", beginning.met(s("abcdzz"), 1), 3);
         due("18: not by less than that", beginning.met(s("abc"), 1), 0);
@@ -246,6 +255,11 @@ public final class NearEdgesTest {
         NearSpell y = Check.told("word q 1;word ba 1;word ab 1;word a 1;");
         due("22: of like ones the first ENTRY", splitOf(y, "aba"), 203000);
         due("22: then the other one", splitOf(y, "abb"), 200001);
+        NearSpell behind = Check.told("word x 1;word a 1;");
+        behind.forget(1);
+        due("22: nor is it one behind the other", splitOf(behind, "xa"), 1);
+        behind.type(s("xa"));
+        read("nor for a reading", behind, 1, 1);
         NearSpell empty = new NearSpell();
         empty.learn(0, 1);
         due("22: the empty one twice", splitOf(empty, "abc"), 3);
@@ -436,6 +450,11 @@ public final class NearEdgesTest {
         for (int i = 0; i < 14; i++) {
             y.learn(((((((i + 1) * 27 + i + 1) * 27 + i + 1) * 27 + i + 1) * 27 + i + 1) * 27) + i + 1, 0);
         }
+        NearSpell fewer = Check.told("word ab 1;word aa 1;word bb 1;word bbb 1;word bbc 1;");
+        due("29: among five", fewer.middle(), 2);
+        fewer.forget(3);
+        fewer.forget(4);
+        due("29: the forgotten ones are no others", fewer.middle(), 0);
         due("29: all 6 apart: the first", y.middle(), 0);
         y.forget(0);
         due("29: then the next", y.middle(), 1);
@@ -472,6 +491,8 @@ public final class NearEdgesTest {
         due("31: the most used", x.begins(s("a")), 2);
         x.forget(2);
         due("31: not the forgotten one", x.begins(s("abcdef")), -1);
+        NearSpell six = Check.told("word a 1;word abcdef 2;");
+        due("31: six letters begin with the empty one, too", six.begins(0), 1);
         NearSpell e = new NearSpell();
         e.learn(0, 7);
         due("31: the empty ENTRY", e.begins(0), 0);
